@@ -1017,8 +1017,6 @@ public final class BellBook {
         }
 
         private void readGap(int length, boolean isSure) {
-            // Without a minute between the entries the row of sure ones is not broken.
-            if (length <= 0) return;
             if (isSure) addSure(length);
             else addDark(length);
         }

@@ -28,6 +28,7 @@ public final class BellTest {
         lacksOfBothKinds();
         air();
         last();
+        foulness();
         fewest();
         CHECK.finish();
     }
@@ -280,6 +281,26 @@ public final class BellTest {
         x.minutes(2);
         due("16 for 42", x.air(8), 0);
         due("air(0)", x.air(0), 16);
+
+        BellBook y = new BellBook();
+        y.breath(1);
+        y.go(5, true);
+        due("one share in a minute", y.air(8), 1000);
+        y.minutes(200);
+        due("200 fewer", y.air(8), 800);
+    }
+
+    private static void foulness() {
+        BellBook x = new BellBook();
+        x.room(100);
+        x.breath(30);
+        x.go(0, true);
+        x.minutes(4);
+        for (int i = 0; i < 10; i++) x.tip();
+        due("one share", x.air(1), 1);
+        due("and that is foul", x.air(7), 100);
+        due("another makes it 50", x.barrel(1) + x.air(7), 50);
+        due("another makes it 33", x.barrel(1) + x.air(7), 33);
     }
 
     private static void fewest() {
