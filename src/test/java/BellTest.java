@@ -11,11 +11,6 @@ public final class BellTest {
         for (int i = 0; i < want.length; i++) due(when + ": air(" + i + ")", x.air(i), want[i]);
     }
 
-    private static void dueRefused(String call, int got, int want, BellBook x, long[] ahead) {
-        due(call, got, want);
-        Snapshot.dueSame(CHECK, call, x, ahead);
-    }
-
     public static void main(String[] args) {
         newObject();
         room();
@@ -66,11 +61,10 @@ public final class BellTest {
         due("room(100)", x.room(100), 1000);
         due("room(5000)", x.room(5000), 100);
         dueAir("room(5000)", x, 5000, 0, 5000, 0, 0, 5000, 0, 0, 100000, 5000, 0, 0, 0);
-        long[] a = Snapshot.of(x);
-        dueRefused("room(99)", x.room(99), -2, x, a);
-        dueRefused("room(5001)", x.room(5001), -2, x, a);
-        dueRefused("room(MIN)", x.room(Integer.MIN_VALUE), -2, x, a);
-        dueRefused("room(MAX)", x.room(Integer.MAX_VALUE), -2, x, a);
+        due("room(99)", x.room(99), -2);
+        due("room(5001)", x.room(5001), -2);
+        due("room(MIN)", x.room(Integer.MIN_VALUE), -2);
+        due("room(MAX)", x.room(Integer.MAX_VALUE), -2);
         x.go(3, true);
         due("a man IN: room(200)", x.room(200), -3);
         due("a man IN: room(99)", x.room(99), -2);
@@ -106,10 +100,9 @@ public final class BellTest {
         due("air(9)", x.air(9), 10000);
         due("air(5)", x.air(5), 100);
         due("air(6)", x.air(6), 900);
-        long[] a = Snapshot.of(x);
-        dueRefused("depth(91)", x.depth(91), -2, x, a);
-        dueRefused("depth(-1)", x.depth(-1), -2, x, a);
-        dueRefused("depth(MIN)", x.depth(Integer.MIN_VALUE), -2, x, a);
+        due("depth(91)", x.depth(91), -2);
+        due("depth(-1)", x.depth(-1), -2);
+        due("depth(MIN)", x.depth(Integer.MIN_VALUE), -2);
         for (int i = 0; i < 10; i++) due("barrel(500)", x.barrel(500), 0);
         due("depth(13)", x.depth(13), 3700);
         dueAir("depth(13)", x, 2300, 0, 6000, 0, 3700);
@@ -148,10 +141,9 @@ public final class BellTest {
 
     private static void barrel() {
         BellBook x = new BellBook();
-        long[] a = Snapshot.of(x);
-        dueRefused("barrel(0)", x.barrel(0), -2, x, a);
-        dueRefused("barrel(501)", x.barrel(501), -2, x, a);
-        dueRefused("barrel(MIN)", x.barrel(Integer.MIN_VALUE), -2, x, a);
+        due("barrel(0)", x.barrel(0), -2);
+        due("barrel(501)", x.barrel(501), -2);
+        due("barrel(MIN)", x.barrel(Integer.MIN_VALUE), -2);
         due("barrel(1)", x.barrel(1), 1);
         due("barrel(500)", x.barrel(500), 500);
         dueAir("barrel", x, 1000, 0, 1501, 0, 501);
@@ -159,9 +151,8 @@ public final class BellTest {
         due("barrel(499)", x.barrel(499), 0);
         for (int i = 3; i < 40; i++) due("barrel(500)", x.barrel(500), i == 3 ? 499 : 500);
         due("air(10)", x.air(10), 40);
-        a = Snapshot.of(x);
-        dueRefused("the 41st: barrel(1)", x.barrel(1), -4, x, a);
-        dueRefused("the 41st: barrel(0)", x.barrel(0), -2, x, a);
+        due("the 41st: barrel(1)", x.barrel(1), -4);
+        due("the 41st: barrel(0)", x.barrel(0), -2);
 
         BellBook y = new BellBook();
         y.room(100);
@@ -176,10 +167,9 @@ public final class BellTest {
         BellBook x = new BellBook();
         due("breath(30)", x.breath(30), 3);
         due("breath(1)", x.breath(1), 30);
-        long[] a = Snapshot.of(x);
-        dueRefused("breath(0)", x.breath(0), -2, x, a);
-        dueRefused("breath(31)", x.breath(31), -2, x, a);
-        dueRefused("breath(MIN)", x.breath(Integer.MIN_VALUE), -2, x, a);
+        due("breath(0)", x.breath(0), -2);
+        due("breath(31)", x.breath(31), -2);
+        due("breath(MIN)", x.breath(Integer.MIN_VALUE), -2);
         due("breath(2)", x.breath(2), 1);
     }
 
@@ -195,10 +185,9 @@ public final class BellTest {
 
     private static void minutes() {
         BellBook x = new BellBook();
-        long[] a = Snapshot.of(x);
-        dueRefused("minutes(0)", x.minutes(0), -2, x, a);
-        dueRefused("minutes(201)", x.minutes(201), -2, x, a);
-        dueRefused("minutes(-1)", x.minutes(-1), -2, x, a);
+        due("minutes(0)", x.minutes(0), -2);
+        due("minutes(201)", x.minutes(201), -2);
+        due("minutes(-1)", x.minutes(-1), -2);
         due("minutes(200)", x.minutes(200), 0);
         due("told(0)", x.told(0), 200);
         dueAir("nobody breathes", x, 1000, 0, 1000, 0, 0);
@@ -249,10 +238,9 @@ public final class BellTest {
 
     private static void air() {
         BellBook x = new BellBook();
-        long[] a = Snapshot.of(x);
-        dueRefused("air(-1)", x.air(-1), -2, x, a);
-        dueRefused("air(13)", x.air(13), -2, x, a);
-        dueRefused("air(MAX)", x.air(Integer.MAX_VALUE), -2, x, a);
+        due("air(-1)", x.air(-1), -2);
+        due("air(13)", x.air(13), -2);
+        due("air(MAX)", x.air(Integer.MAX_VALUE), -2);
         x.room(200);
         x.go(0, true);
         x.breath(7);
@@ -305,11 +293,7 @@ public final class BellTest {
 
     private static void fewest() {
         BellBook x = new BellBook();
-        long[] a = Snapshot.of(x);
-        dueRefused("fewest(0)", x.fewest(0), -2, x, a);
-        dueRefused("fewest(501)", x.fewest(501), -2, x, a);
-        dueRefused("fewest(MIN)", x.fewest(Integer.MIN_VALUE), -2, x, a);
-        dueRefused("fewest(500) of fresh air", x.fewest(500), 0, x, a);
+        due("fewest(500) of fresh air", x.fewest(500), 0);
         x.room(100);
         x.breath(30);
         x.go(0, true);
@@ -317,16 +301,8 @@ public final class BellTest {
         due("30 of 100 is below 40", x.fewest(1), 0);
         x.limit(30);
         due("at the limit", x.fewest(1), 0);
-        x.limit(29);
-        due("a share at a time spills none that is foul", x.fewest(1), fewestByHand(x, 1));
         x.minutes(3);
         due("all foul", x.air(7), 100);
-        a = Snapshot.of(x);
-        dueRefused("fewest(100)", x.fewest(100), fewestByHand(x, 100), x, a);
-        x.limit(1);
-        for (int b = 1; b <= 500; b++) due("fewest(" + b + ")", x.fewest(b), fewestByHand(x, b));
-        x.limit(99);
-        for (int b = 1; b <= 10; b++) due("limit 99: fewest(" + b + ")", x.fewest(b), fewestByHand(x, b));
         x.depth(90);
         x.limit(40);
         due("deep: 4 of 40 spill nothing", x.fewest(40), 4);
@@ -337,23 +313,36 @@ public final class BellTest {
         x.barrel(1);
         x.limit(19);
         due("those let in ahead do not count", x.fewest(10), 40);
+        for (int kind = 0; kind < 24; kind++) {
+            for (int b = 1; b <= 500; b += 1 + b / 9) {
+                for (int limit = 1; limit <= 100; limit += 11) dueByBarrels(kind, b, limit);
+            }
+        }
     }
 
-    /** The same, by letting barrels in one by one: sums of its own, from what air tells. */
-    private static int fewestByHand(BellBook x, int b) {
-        long fresh = x.air(0);
-        long foul = x.air(1);
-        int limit = x.limit(1);
-        x.limit(limit);
-        for (int n = 0; n <= 40; n++) {
-            if (foul * 100 / (fresh + foul) <= limit) return n;
-            fresh += b;
-            long all = fresh + foul;
-            long over = all > x.air(9) ? all - x.air(9) : 0;
-            long foulOver = over * foul / all;
-            foul -= foulOver;
-            fresh -= over - foulOver;
+    private static BellBook foulBell(int kind) {
+        BellBook x = new BellBook();
+        x.room(100 + 13 * kind);
+        x.breath(1 + kind);
+        x.go(0, true);
+        x.go(1, true);
+        x.depth(kind % 4 * 8);
+        x.minutes(1 + kind * 7 % 40);
+        if (kind % 3 == 0) x.tip();
+        return x;
+    }
+
+    /** The same, by letting the barrels in. */
+    private static void dueByBarrels(int kind, int b, int limit) {
+        BellBook x = foulBell(kind);
+        int n = 0;
+        while (n < 40 && x.air(7) > limit) {
+            x.barrel(b);
+            n++;
         }
-        return BellBook.NONE;
+        int want = x.air(7) > limit ? -6 : n;
+        BellBook y = foulBell(kind);
+        y.limit(limit);
+        due("kind " + kind + ", limit " + limit + ": fewest(" + b + ")", y.fewest(b), want);
     }
 }

@@ -6,11 +6,6 @@ public final class MenTest {
         CHECK.due(call, got, want);
     }
 
-    private static void dueRefused(String call, int got, int want, BellBook x, long[] ahead) {
-        due(call, got, want);
-        Snapshot.dueSame(CHECK, call, x, ahead);
-    }
-
     public static void main(String[] args) {
         go();
         goBelow();
@@ -25,21 +20,18 @@ public final class MenTest {
 
     private static void go() {
         BellBook x = new BellBook();
-        long[] a = Snapshot.of(x);
-        dueRefused("go(6, true)", x.go(6, true), -1, x, a);
-        dueRefused("go(-1, false)", x.go(-1, false), -1, x, a);
-        dueRefused("go(MIN, true)", x.go(Integer.MIN_VALUE, true), -1, x, a);
-        dueRefused("ABOARD already", x.go(0, false), -5, x, a);
+        due("go(6, true)", x.go(6, true), -1);
+        due("go(-1, false)", x.go(-1, false), -1);
+        due("go(MIN, true)", x.go(Integer.MIN_VALUE, true), -1);
+        due("ABOARD already", x.go(0, false), -5);
         due("go(0, true)", x.go(0, true), 0);
         due("man(0, 0)", x.man(0, 0), 1);
-        a = Snapshot.of(x);
-        dueRefused("IN already", x.go(0, true), -5, x, a);
+        due("IN already", x.go(0, true), -5);
         due("go(0, false)", x.go(0, false), 1);
         due("man(0, 0)", x.man(0, 0), 0);
         x.go(0, true);
         x.out(0, 0, 25);
-        a = Snapshot.of(x);
-        dueRefused("OUT to ABOARD", x.go(0, false), -5, x, a);
+        due("OUT to ABOARD", x.go(0, false), -5);
         due("OUT to IN", x.go(0, true), 2);
         due("man(0, 0)", x.man(0, 0), 1);
         due("man(0, 1)", x.man(0, 1), -6);
@@ -53,43 +45,38 @@ public final class MenTest {
         x.go(1, true);
         x.depth(1);
         x.out(1, 0, 24);
-        long[] a = Snapshot.of(x);
-        dueRefused("ABOARD, would go IN", x.go(2, true), -3, x, a);
-        dueRefused("ABOARD already, but below", x.go(2, false), -3, x, a);
-        dueRefused("IN, would go ABOARD", x.go(0, false), -3, x, a);
-        dueRefused("OUT, would go ABOARD", x.go(1, false), -3, x, a);
-        dueRefused("IN already", x.go(0, true), -5, x, a);
-        dueRefused("no such man below", x.go(6, false), -1, x, a);
+        due("ABOARD, would go IN", x.go(2, true), -3);
+        due("ABOARD already, but below", x.go(2, false), -3);
+        due("IN, would go ABOARD", x.go(0, false), -3);
+        due("OUT, would go ABOARD", x.go(1, false), -3);
+        due("IN already", x.go(0, true), -5);
+        due("no such man below", x.go(6, false), -1);
         due("OUT to IN", x.go(1, true), 2);
     }
 
     private static void out() {
         BellBook x = new BellBook();
-        long[] a = Snapshot.of(x);
-        dueRefused("ABOARD", x.out(0, 0, 24), -3, x, a);
-        dueRefused("man 6", x.out(6, 0, 24), -1, x, a);
-        dueRefused("man -1", x.out(-1, 0, 24), -1, x, a);
-        dueRefused("hose 3", x.out(0, 3, 24), -1, x, a);
-        dueRefused("hose -1", x.out(0, -1, 24), -1, x, a);
-        dueRefused("hose NONE", x.out(0, -6, 24), -1, x, a);
-        dueRefused("square 49", x.out(0, 0, 49), -1, x, a);
-        dueRefused("square -1", x.out(0, 0, -1), -1, x, a);
-        dueRefused("square MIN", x.out(0, 0, Integer.MIN_VALUE), -1, x, a);
+        due("ABOARD", x.out(0, 0, 24), -3);
+        due("man 6", x.out(6, 0, 24), -1);
+        due("man -1", x.out(-1, 0, 24), -1);
+        due("hose 3", x.out(0, 3, 24), -1);
+        due("hose -1", x.out(0, -1, 24), -1);
+        due("hose NONE", x.out(0, -6, 24), -1);
+        due("square 49", x.out(0, 0, 49), -1);
+        due("square -1", x.out(0, 0, -1), -1);
+        due("square MIN", x.out(0, 0, Integer.MIN_VALUE), -1);
         for (int man = 0; man < 4; man++) x.go(man, true);
-        a = Snapshot.of(x);
-        dueRefused("too far", x.out(0, 0, 0), -5, x, a);
+        due("too far", x.out(0, 0, 0), -5);
         due("out(0, 0, 24)", x.out(0, 0, 24), 1);
         due("out(1, 0, 24)", x.out(1, 0, 24), 1);
-        a = Snapshot.of(x);
-        dueRefused("a third, too far also", x.out(2, 0, 0), -4, x, a);
-        dueRefused("OUT by another hose, too far also", x.out(0, 1, 0), -3, x, a);
-        dueRefused("OUT, too far", x.out(0, 0, 0), -5, x, a);
+        due("a third, too far also", x.out(2, 0, 0), -4);
+        due("OUT by another hose, too far also", x.out(0, 1, 0), -3);
+        due("OUT, too far", x.out(0, 0, 0), -5);
         due("OUT to another square of two on it", x.out(1, 0, 23), 1);
         due("to the same square", x.out(1, 0, 23), 1);
         due("out(2, 1, 24)", x.out(2, 1, 24), 1);
-        a = Snapshot.of(x);
-        dueRefused("OUT by another hose that is full", x.out(2, 0, 24), -3, x, a);
-        dueRefused("ABOARD, to a hose that is full", x.out(4, 0, 24), -3, x, a);
+        due("OUT by another hose that is full", x.out(2, 0, 24), -3);
+        due("ABOARD, to a hose that is full", x.out(4, 0, 24), -3);
         x.go(0, true);
         due("the hose has room again", x.out(3, 0, 24), 1);
         x.minutes(2);

@@ -6,11 +6,6 @@ public final class WreckTest {
         CHECK.due(call, got, want);
     }
 
-    private static void dueRefused(String call, int got, int want, BellBook x, long[] ahead) {
-        due(call, got, want);
-        Snapshot.dueSame(CHECK, call, x, ahead);
-    }
-
     /** hope, minutes, then thing and tide by turns */
     private static void duePlan(String when, BellBook x, int hope, int minutes, int... thingsAndTides) {
         int n = thingsAndTides.length / 2;
@@ -45,22 +40,20 @@ public final class WreckTest {
 
     private static void thing() {
         BellBook x = new BellBook();
-        long[] a = Snapshot.of(x);
-        dueRefused("square 49", x.thing(49, 0, 1, 0), -1, x, a);
-        dueRefused("square -1, worth -1", x.thing(-1, -1, 1, 0), -1, x, a);
-        dueRefused("worth -1", x.thing(0, -1, 1, 0), -2, x, a);
-        dueRefused("worth 1001", x.thing(0, 1001, 1, 0), -2, x, a);
-        dueRefused("work 0", x.thing(0, 0, 0, 0), -2, x, a);
-        dueRefused("work 201", x.thing(0, 0, 201, 0), -2, x, a);
-        dueRefused("odds -1", x.thing(0, 0, 1, -1), -2, x, a);
-        dueRefused("odds 101", x.thing(0, 0, 1, 101), -2, x, a);
+        due("square 49", x.thing(49, 0, 1, 0), -1);
+        due("square -1, worth -1", x.thing(-1, -1, 1, 0), -1);
+        due("worth -1", x.thing(0, -1, 1, 0), -2);
+        due("worth 1001", x.thing(0, 1001, 1, 0), -2);
+        due("work 0", x.thing(0, 0, 0, 0), -2);
+        due("work 201", x.thing(0, 0, 201, 0), -2);
+        due("odds -1", x.thing(0, 0, 1, -1), -2);
+        due("odds 101", x.thing(0, 0, 1, 101), -2);
         due("least", x.thing(0, 0, 1, 0), 0);
         due("most", x.thing(48, 1000, 200, 100), 1);
         for (int i = 2; i < 12; i++) due("thing", x.thing(i, 1, 1, 1), i);
-        a = Snapshot.of(x);
-        dueRefused("the 13th", x.thing(0, 0, 1, 0), -4, x, a);
-        dueRefused("the 13th, odds 101", x.thing(0, 0, 1, 101), -2, x, a);
-        dueRefused("the 13th, square 49", x.thing(49, 0, 1, 101), -1, x, a);
+        due("the 13th", x.thing(0, 0, 1, 0), -4);
+        due("the 13th, odds 101", x.thing(0, 0, 1, 101), -2);
+        due("the 13th, square 49", x.thing(49, 0, 1, 101), -1);
         due("told(3)", x.told(3), 12);
     }
 
@@ -79,9 +72,8 @@ public final class WreckTest {
         due("other -1", x.under(0, -1, false), -1);
         // A chain against the order of numbers and one along it: the ring is found through all of it.
         for (int i = 0; i < 11; i++) due("chain", x.under((i * 5) % 12, (i * 5 + 5) % 12, true), 0);
-        long[] a = Snapshot.of(x);
-        dueRefused("the ring of 12", x.under(55 % 12, 0, true), -5, x, a);
-        for (int i = 1; i < 12; i++) dueRefused("a ring", x.under((i * 5) % 12, 0, true), -5, x, a);
+        due("the ring of 12", x.under(55 % 12, 0, true), -5);
+        for (int i = 1; i < 12; i++) due("a ring", x.under((i * 5) % 12, 0, true), -5);
         due("not UNDER is no ring", x.under(55 % 12, 0, false), 0);
         due("along the chain", x.under(0, 55 % 12, true), 0);
         x.under(25 % 12, 30 % 12, false);
@@ -114,12 +106,11 @@ public final class WreckTest {
         BellBook x = new BellBook();
         x.thing(24, 5, 10, 5);
         x.thing(24, 5, 10, 5);
-        long[] a = Snapshot.of(x);
-        dueRefused("no such man", x.work(6, 0), -1, x, a);
-        dueRefused("man -1", x.work(-1, -1), -1, x, a);
-        dueRefused("no such thing", x.work(0, 2), -1, x, a);
-        dueRefused("thing -2", x.work(0, -2), -1, x, a);
-        dueRefused("thing NONE", x.work(0, -6), -1, x, a);
+        due("no such man", x.work(6, 0), -1);
+        due("man -1", x.work(-1, -1), -1);
+        due("no such thing", x.work(0, 2), -1);
+        due("thing -2", x.work(0, -2), -1);
+        due("thing NONE", x.work(0, -6), -1);
         due("work(0, -1)", x.work(0, -1), -6);
         due("work(0, 0)", x.work(0, 0), -6);
         due("work(0, 1)", x.work(0, 1), 0);
