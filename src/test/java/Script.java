@@ -5,16 +5,25 @@ import java.util.Map;
 
 /**
  * A new object and calls on it, written as text: "room(100); 40 * barrel(1); go(0, true)". MIN and MAX are the least and
- * the greatest int. No object is called more often than the document lets it be.
+ * the greatest int. No object is called more often than the document lets it be. The object is a BellBook, or one of
+ * another class with the same calls.
  */
 final class Script {
     private static final int MOST_CALLS = 512;
     private static final Map<String, Call> KNOWN = new HashMap<>();
 
-    private final BellBook x = new BellBook();
+    private final Object x;
     private int calls = 0;
 
     private record Call(Method method, Object[] numbers) {
+    }
+
+    Script() {
+        this(new BellBook());
+    }
+
+    Script(Object x) {
+        this.x = x;
     }
 
     /** Makes all the calls of the text; answers what the last of them answered. */
@@ -32,7 +41,7 @@ final class Script {
     private int call(String text) {
         calls++;
         if (calls > MOST_CALLS) throw new IllegalStateException("a test calls one object more than 512 times: " + text);
-        Call call = KNOWN.computeIfAbsent(text, Script::read);
+        Call call = KNOWN.computeIfAbsent(x.getClass().getName() + " " + text, key -> read(x.getClass(), text));
         try {
             return (Integer) call.method.invoke(x, call.numbers);
         } catch (InvocationTargetException e) {
@@ -42,7 +51,7 @@ final class Script {
         }
     }
 
-    private static Call read(String text) {
+    private static Call read(Class<?> kind, String text) {
         int open = text.indexOf('(');
         int close = text.indexOf(')');
         if (open < 0 || close != text.length() - 1) throw new IllegalStateException("no call: " + text);
@@ -55,7 +64,7 @@ final class Script {
             types[i] = numbers[i] instanceof Boolean ? boolean.class : int.class;
         }
         try {
-            return new Call(BellBook.class.getMethod(text.substring(0, open), types), numbers);
+            return new Call(kind.getDeclaredMethod(text.substring(0, open), types), numbers);
         } catch (NoSuchMethodException e) {
             throw new IllegalStateException("no call of the face: " + text, e);
         }
